@@ -808,7 +808,8 @@ public final class CoatBetween {
 
     /** Takes, again and again, the least need that leaves the others such that they can still be met. */
     private boolean goFirstOrder(int set) {
-        reachFromStart(set);
+        jobs.load(lane);
+        planner.reach(set, lane.startPlace(), 0);
         if (planner.endOf(set) == NONE) {
             return false;
         }
