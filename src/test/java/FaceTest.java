@@ -37,13 +37,13 @@ public final class FaceTest {
         Check.due("STATE", CoatBetween.STATE, -4);
         Check.due("SPENT", CoatBetween.SPENT, -6);
         Check.due("NONE", CoatBetween.NONE, -9);
-        List<String> names = new ArrayList<>();
+        TreeSet<String> names = new TreeSet<>();
         for (Field field : CoatBetween.class.getDeclaredFields()) {
             if (!Modifier.isPrivate(field.getModifiers())) {
                 names.add(field.getName());
             }
         }
-        List<String> want = List.of("BAD", "FULL", "FINDING", "STATE", "SPENT", "NONE");
+        TreeSet<String> want = new TreeSet<>(List.of("BAD", "FULL", "FINDING", "STATE", "SPENT", "NONE"));
         Check.due("no other constant: " + names, names.equals(want) ? 1 : 0, 1);
     }
 

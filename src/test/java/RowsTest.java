@@ -142,6 +142,9 @@ public final class RowsTest {
         Check.lay(x, 0, LEAST, LEAST);
         Check.due("mean(0)", x.mean(0), 1);
         Check.due("of small ones", x.asked(), LEAST);
+        Check.lay(x, 0, -7);
+        Check.due("mean(0)", x.mean(0), 1);
+        Check.due("of one", x.asked(), -7);
         x.row(1, 0);
         Check.bad(x, "mean(6)", () -> x.mean(6));
         Check.bad(x, "mean(-1)", () -> x.mean(-1));

@@ -3,6 +3,7 @@ public final class TracksTest {
     public static void main(String[] args) {
         pocket();
         find();
+        findInFullPocket();
         pocketRefused();
         track();
         forget();
@@ -45,6 +46,20 @@ public final class TracksTest {
         Check.due("find(2)", x.find(2), 0);
         Check.due("it", x.asked(), 99);
         Check.found(x, "find(2), an empty pocket", () -> x.find(2), 1);
+    }
+
+    private static void findInFullPocket() {
+        CoatBetween x = Check.village("h0h1");
+        x.pocket(1, 99);
+        for (int i = 0; i < 11; i++) {
+            x.pocket(0, i);
+        }
+        Check.due("find(1), the lowest of twelve", x.find(1), 11);
+        for (int i = 10; i >= 0; i--) {
+            Check.due("find(0)", x.find(0), 0);
+            Check.due("it", x.asked(), i);
+        }
+        Check.due("count(4)", x.count(4), 0);
     }
 
     private static void pocketRefused() {

@@ -84,6 +84,9 @@ public final class VillageTest {
         fault("h0nA:3-", 7);
         fault("h0nA:3-x:1:1", 7);
         fault("h0nA:3-2:1:1", 8);
+        fault("h0nA:5-4", 8);
+        fault("h0nA:5-4 h1", 8);
+        fault("h0nA:5-4h1", 8);
         fault("h0nA:10-09:1:1", 10);
         fault("h0nA:10-9:1:1", 9);
         fault("h0nA:10-28:1:1", 10);
@@ -181,9 +184,15 @@ public final class VillageTest {
         Check.due("no tracks", x.count(5), 0);
         Check.due("rows stay", x.count(6), 1);
         Check.due("texts stay", x.count(7), 1);
-        Check.due("nothing owed", x.owes(0, 1), 0);
-        x.house(1);
-        Check.due("no hours", x.asked(), 0);
+        for (int h = 0; h < 3; h++) {
+            x.house(h);
+            Check.due("no hours", x.asked(), 0);
+            for (int k = 0; k < 3; k++) {
+                if (k != h) {
+                    Check.due("nothing owed", x.owes(h, k), 0);
+                }
+            }
+        }
         Check.due("chances are 12", x.chance(2, 1), 12);
         Check.due("at house 0", x.start(1), 0);
     }
