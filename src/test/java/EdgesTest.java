@@ -53,6 +53,10 @@ public final class EdgesTest {
         Check.due("the next one is not", x.at(4, 59) * x.asked(), 104);
         Check.lay(x, 3, MOST, LEAST);
         Check.rowIs(x, "ints at their edges", 3, MOST, LEAST);
+        CoatBetween torn = new CoatBetween();
+        torn.row(2, 7);
+        torn.tear(2);
+        Check.due("a torn row is missing as at first", torn.digest(), new CoatBetween().digest());
     }
 
     private static void allTexts() {
